@@ -203,10 +203,12 @@ public final class VerdictPages {
         private final long[] names = new long[MOST_NODES];
         private int count = 0;
         private int lastOpen = NONE;
+        private int openCount = 0;
 
         void removeAll() {
             count = 0;
             lastOpen = NONE;
+            openCount = 0;
         }
 
         int size() {
@@ -244,7 +246,7 @@ public final class VerdictPages {
         }
 
         int openSuites() {
-            return rowDepth(lastOpen);
+            return openCount;
         }
 
         /** In how many suites the nodes of a suite's row are, 0 for the top. */
@@ -262,18 +264,18 @@ public final class VerdictPages {
         }
 
         int addNode(int kind, long name) {
-            int depth = openSuites();
-            if (count >= MOST_NODES || (kind == OPEN_SUITE && depth >= MOST_OPEN)) {
+            if (count >= MOST_NODES || (kind == OPEN_SUITE && openCount >= MOST_OPEN)) {
                 return FULL;
             }
             int node = count;
             kinds[node] = kind;
-            depths[node] = depth;
+            depths[node] = openCount;
             suites[node] = lastOpen;
             names[node] = name;
             count++;
             if (kind == OPEN_SUITE) {
                 lastOpen = node;
+                openCount++;
             }
             return node;
         }
@@ -284,6 +286,7 @@ public final class VerdictPages {
             }
             kinds[lastOpen] = hasFailedBehind(lastOpen) ? FAILED_SUITE : GOOD_SUITE;
             lastOpen = suites[lastOpen];
+            openCount--;
             return true;
         }
 
@@ -306,7 +309,7 @@ public final class VerdictPages {
         /** All nodes behind the last open suite are in it. */
         private boolean hasFailedBehind(int suite) {
             for (int node = suite + 1; node < count; node++) {
-                if (kindOf(node) == FAILED) {
+                if (kinds[node] == FAILED) {
                     return true;
                 }
             }
@@ -315,8 +318,8 @@ public final class VerdictPages {
 
         private int countInRow(int suite, int end) {
             int found = 0;
-            for (int node = 0; node < end; node++) {
-                if (suiteOf(node) == suite) {
+            for (int node = 0; node < end && node < count; node++) {
+                if (suites[node] == suite) {
                     found++;
                 }
             }

@@ -6,6 +6,7 @@ public final class AttemptsTest {
         attemptsByName();
         attemptsBySuites();
         flakyByOrder();
+        flakyAtTheEnds();
         flakyByResults();
         noTests();
         afterReading();
@@ -77,6 +78,20 @@ public final class AttemptsTest {
         dueFlaky("failed, passed, failed", true, 1, 0, 1);
         dueFlaky("failed, skipped, known, passed", true, 1, 2, 3, 0);
         dueFlaky("passed, passed, failed, failed", false, 0, 0, 1, 1);
+    }
+
+    private static void flakyAtTheEnds() {
+        VerdictPages pages = new VerdictPages();
+        Checks.test(pages, "t", 1);
+        for (int node = 1; node < 23; node++) {
+            pages.test(2);
+        }
+        Checks.test(pages, "t", 0);
+        CHECKS.due("flaky(0), first and last", true, pages.flaky(0));
+        CHECKS.due("flaky(23), first and last", true, pages.flaky(23));
+        CHECKS.due("flaky(12), between", false, pages.flaky(12));
+        CHECKS.due("attempts(0)", 2, pages.attempts(0));
+        CHECKS.due("attempts(12)", 22, pages.attempts(12));
     }
 
     private static void flakyByResults() {

@@ -128,6 +128,10 @@ public final class ReadTest {
         dueNodes("0 0 '\\\\'\n", "ok 1 - \\\\\\\\", "1..1");
         dueNodes("0 0 'ok 1 -'\n", "ok 1 - ok 1 -", "1..1");
         dueNodes("0 6 '1..0'\n", "# Subtest: 1..0", "Bail out!");
+        dueLines(-2, "ok", "1..1");
+        dueLines(-2, "ok ", "1..1");
+        dueLines(-2, "ok 1", "1..1");
+        dueLines(-2, "not ok 1", "1..1");
         dueLines(-2, "ok 1 -", "1..1");
         dueLines(-2, "ok 1  - a", "1..1");
         dueLines(-2, "ok 1 -a", "1..1");
@@ -232,6 +236,8 @@ public final class ReadTest {
         dueLines(-3, "# Subtest: s", "ok 2 - a", "Bail out!");
         dueLines(-3, "# Subtest: s", "# Subtest: t", "Bail out!");
         dueLines(-3, "# Subtest: s", "    ", "Bail out!");
+        dueLines(-3, "# Subtest: s", "", "Bail out!");
+        dueLines(-4, "# Subtest: s", "    # Subtest: t", "    ", "Bail out!");
         dueLines(-5, "# Subtest: s", "    # Subtest: t", "        1..0", "ok 1 - t", "Bail out!");
         dueLines(-4, "# Subtest: s", "    # Subtest: t", "    1..0", "ok 1 - t", "Bail out!");
         dueLines(-4, "# Subtest: s", "    # Subtest: t", "    ok 1 - a", "Bail out!");
@@ -301,6 +307,8 @@ public final class ReadTest {
         CHECKS.due("close a", true, pages.close());
         CHECKS.due("close of none", false, pages.close());
         CHECKS.due("nodes", "0 5 'a'\n1 5 'b'\n2 1 'c'\n2 0 'begun'\n1 2 'd'\n", Checks.tellNodes(pages));
+        CHECKS.due("read of no page", -3, Checks.read(pages, TITLE + "ok 1 - e\n"));
+        CHECKS.due("nodes stay", "0 5 'a'\n1 5 'b'\n2 1 'c'\n2 0 'begun'\n1 2 'd'\n", Checks.tellNodes(pages));
         CHECKS.due("read of another", 0, Checks.read(pages, TITLE + "1..0\n"));
         CHECKS.due("nodes then", 0, pages.nodes());
         CHECKS.due("test at the top", 0, pages.test(3));
