@@ -47,7 +47,8 @@ final class Checks {
 
     static String nameOf(VerdictPages pages, int node) {
         StringBuilder name = new StringBuilder();
-        for (int i = 0; pages.name(node, i) != -1; i++) {
+        // A bound above the six there may be: a name without an end is to fail a test, not to hang it.
+        for (int i = 0; i < 10 && pages.name(node, i) != -1; i++) {
             name.append((char) pages.name(node, i));
         }
         return name.toString();
