@@ -15,14 +15,8 @@ public final class WriteTest {
         CHECKS.end();
     }
 
-    private static void duePage(String what, String want, VerdictPages pages) {
-        CHECKS.due(what + ": write()", want.length(), pages.write());
-        CHECKS.due(what + ": length()", want.length(), pages.length());
-        CHECKS.due(what + ": the page", want, Checks.pageOf(pages));
-    }
-
     private static void emptyReport() {
-        duePage("empty", "TAP version 14\n1..0\n", new VerdictPages());
+        CHECKS.duePage("empty", "TAP version 14\n1..0\n", new VerdictPages());
     }
 
     private static void everyResult() {
@@ -31,7 +25,7 @@ public final class WriteTest {
         Checks.test(pages, "f", 1);
         Checks.test(pages, "s", 2);
         Checks.test(pages, "k", 3);
-        duePage("results", "TAP version 14\nok 1 - p\nnot ok 2 - f\nok 3 - s # SKIP\n"
+        CHECKS.duePage("results", "TAP version 14\nok 1 - p\nnot ok 2 - f\nok 3 - s # SKIP\n"
             + "not ok 4 - k # TODO\n1..4\n", pages);
     }
 
@@ -43,7 +37,7 @@ public final class WriteTest {
         Checks.open(pages, "######");
         pages.close();
         Checks.open(pages, "\\\\\\\\\\\\");
-        duePage("names", "TAP version 14\nok 1 - \nok 2 -  # SKIP\nnot ok 3 -  \\# \\\\~ # TODO\n"
+        CHECKS.duePage("names", "TAP version 14\nok 1 - \nok 2 -  # SKIP\nnot ok 3 -  \\# \\\\~ # TODO\n"
             + "# Subtest: \\#\\#\\#\\#\\#\\#\n    1..0\nok 4 - \\#\\#\\#\\#\\#\\#\n"
             + "# Subtest: \\\\\\\\\\\\\\\\\\\\\\\\\nBail out!\n", pages);
     }
@@ -63,7 +57,7 @@ public final class WriteTest {
         Checks.open(pages, "e");
         Checks.test(pages, "z", 3);
         pages.close();
-        duePage("closed", "TAP version 14\n"
+        CHECKS.duePage("closed", "TAP version 14\n"
             + "# Subtest: a\n"
             + "    # Subtest: b\n"
             + "        # Subtest: c\n"
@@ -89,21 +83,21 @@ public final class WriteTest {
         VerdictPages pages = new VerdictPages();
         Checks.test(pages, "t", 0);
         Checks.open(pages, "a");
-        duePage("one open", "TAP version 14\nok 1 - t\n# Subtest: a\nBail out!\n", pages);
+        CHECKS.duePage("one open", "TAP version 14\nok 1 - t\n# Subtest: a\nBail out!\n", pages);
         Checks.open(pages, "b");
         Checks.open(pages, "c");
         Checks.test(pages, "x", 1);
         String begin = "TAP version 14\nok 1 - t\n# Subtest: a\n    # Subtest: b\n        # Subtest: c\n"
             + "            not ok 1 - x\n";
-        duePage("three open", begin + "Bail out!\n", pages);
+        CHECKS.duePage("three open", begin + "Bail out!\n", pages);
         pages.close();
         begin = begin + "            1..1\n        not ok 1 - c\n";
-        duePage("two open", begin + "Bail out!\n", pages);
+        CHECKS.duePage("two open", begin + "Bail out!\n", pages);
         pages.close();
         begin = begin + "        1..1\n    not ok 1 - b\n";
-        duePage("one left", begin + "Bail out!\n", pages);
+        CHECKS.duePage("one left", begin + "Bail out!\n", pages);
         pages.close();
-        duePage("none left", begin + "    1..1\nnot ok 2 - a\n1..2\n", pages);
+        CHECKS.duePage("none left", begin + "    1..1\nnot ok 2 - a\n1..2\n", pages);
     }
 
     private static void closedInOpen() {
@@ -112,7 +106,7 @@ public final class WriteTest {
         Checks.open(pages, "b");
         pages.close();
         Checks.test(pages, "x", 0);
-        duePage("closed in open", "TAP version 14\n# Subtest: a\n    # Subtest: b\n        1..0\n"
+        CHECKS.duePage("closed in open", "TAP version 14\n# Subtest: a\n    # Subtest: b\n        1..0\n"
             + "    ok 1 - b\n    ok 2 - x\nBail out!\n", pages);
     }
 
@@ -122,7 +116,7 @@ public final class WriteTest {
         for (int place = 1; place <= 24; place++) {
             pages.test(0);
             want.append("ok ").append(place).append(" - \n");
-            duePage("a row of " + place, want + "1.." + place + "\n", pages);
+            CHECKS.duePage("a row of " + place, want + "1.." + place + "\n", pages);
         }
     }
 
@@ -144,14 +138,14 @@ public final class WriteTest {
         pages.close();
         want.append("        1..22\n    ok 1 - ").append(name).append("\n    1..1\nok 1 - ").append(name)
             .append("\n1..1\n");
-        duePage("longest", want.toString(), pages);
+        CHECKS.duePage("longest", want.toString(), pages);
         CHECKS.due("longest: read()", 0, pages.read());
     }
 
     private static void writeReplaces() {
         VerdictPages pages = new VerdictPages();
         Checks.setPage(pages, "x".repeat(3000));
-        duePage("after a full page", "TAP version 14\n1..0\n", pages);
+        CHECKS.duePage("after a full page", "TAP version 14\n1..0\n", pages);
         Checks.begin(pages, "n");
         pages.write();
         CHECKS.due("write leaves the nodes", 0, pages.nodes());
